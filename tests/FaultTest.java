@@ -28,11 +28,11 @@ public final class FaultTest {
             Check.faults("NOP `" + bad, 1);
         }
         Check.faults("DB 1 `?", 1);
-        Check.faults("X`?", 1);
+        Check.faults("`X?", 6);
         Check.faults("DB 5`#", 1);
-        Check.faults("X `? : NOP", 1);
+        Check.faults("`X ? : NOP", 6);
         Check.faults("DB \"it\"`'", 1);
-        Check.faults("DB ''`'", 1);
+        Check.faults("DB '''`'", 1);
         Check.faults("`a234567890123:", 1);
         Check.faults("`a234567890123 EQU 5", 1);
     }
@@ -75,7 +75,7 @@ public final class FaultTest {
         Check.faults("IF 1`,2\nENDIF", 2);
         Check.faults("IF 1\nELSE `5\nENDIF", 2);
         Check.faults("IF 1\nENDIF `X", 2);
-        Check.faults("IF 1\nENDIF `:", 2);
+        Check.faults("IF 1\n`ENDIF :", 3);
         Check.faults("DB 1+`", 2);
         Check.faults("DB 1+`*2", 2);
         Check.faults("DB 1+`|2", 2);
@@ -92,7 +92,7 @@ public final class FaultTest {
         Check.faults("DB 1`X", 2);
         for (String word : ("A B C D E H L I R AF AF' BC DE HL SP IX IY NZ Z NC PO PE P M NOP LD OTDR RST ORG EQU DB DW DS IF "
             + "ELSE ENDIF im Ldir sla").split(" ")) {
-            Check.faults("DB `" + word, 2);
+            Check.faults("DB 1,`" + word, 2);
             Check.faults("DB 1+`" + word, 2);
             Check.faults("LD HL,1+`" + word, 2);
         }
@@ -137,7 +137,9 @@ public final class FaultTest {
         Check.faults("LD A,`,B", 2);
         Check.faults("LD `,B", 2);
         Check.faults("LD `A:", 2);
-        Check.faults("NOP `:", 2);
+        Check.faults("`NOP :", 3);
+        Check.faults("NOP 1`:", 2);
+        Check.faults("`DB EQU", 3);
         Check.faults("JP (`IX", 2);
         Check.faults("JP (`HL) 5", 2);
         Check.faults("LD A,`\"a\"", 2);
@@ -388,7 +390,7 @@ public final class FaultTest {
         Check.faults("DB " + open + "`~1" + ")".repeat(40), 2);
         Check.faults("DB " + "-".repeat(40) + "`-1", 2);
         Check.faults("DB " + "~".repeat(40) + "`(1)", 2);
-        Check.faults("DB (" + "-(".repeat(19) + "-1+-1+~-`~1", 2);
+        Check.faults("DB (" + "-(".repeat(19) + "-1+-1+~`-~1", 2);
         Check.faults("DB 1-" + open + "1-`-1", 2);
         Check.faults("LD A,((" + open.substring(1) + "`(1" + ")".repeat(42), 2);
         Check.faults("LD (IX+" + open + "`(1" + ")".repeat(42), 2);
