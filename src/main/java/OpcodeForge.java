@@ -479,7 +479,7 @@ public final class OpcodeForge {
         /** Sign k of the name with that key, -1 where there is none. */
         static int signOf(long key, int k) {
             int length = 0;
-            for (long rest = key; rest > 0; rest /= BASE) {
+            for (long rest = key; rest > 0 && length < LENGTH_ROOM; rest /= BASE) {
                 length++;
             }
             if (k < 0 || k >= length) {
@@ -1063,8 +1063,9 @@ public final class OpcodeForge {
                 int label = names.find(tokens.value(at));
                 known = label >= 0;
                 value = names.foundValue(label);
-                if (!known) {
-                    note(at, NOT_KNOWN);
+                if (!known && trouble == 0) {
+                    trouble = NOT_KNOWN;
+                    troubleToken = at;
                 }
             } else if (kind != '@') {
                 return false;
@@ -1078,64 +1079,74 @@ public final class OpcodeForge {
             return true;
         }
 
-        // A / is done right behind its divisor, and is by no 0 where a name in the divisor is not known:
-        // so the first trouble that is met is the first by place.
-        private void note(int at, int code) {
-            if (trouble == 0) {
-                trouble = code;
-                troubleToken = at;
-            }
-        }
-
         /** Does the operators that wait and bind at least as tightly as that level. */
         private void settle(int level) {
             while (waits > 0 && waits <= STACK_ROOM && levelOf(waiting[waits - 1]) >= level) {
                 waits--;
-                apply(waiting[waits], waitingTokens[waits]);
+                int operator = waiting[waits];
+                if (operator == '~' || operator == NEGATE) {
+                    turn(operator);
+                } else {
+                    join(operator, waitingTokens[waits]);
+                }
             }
         }
 
-        private void apply(int operator, int at) {
-            boolean unary = operator == '~' || operator == NEGATE;
-            if (depth > STACK_ROOM || depth < (unary ? 1 : 2)) {
-                return;
+        private void turn(int operator) {
+            opened--;
+            if (depth > 0 && depth <= STACK_ROOM) {
+                int value = values[depth - 1];
+                values[depth - 1] = operator == '~' ? ~value : -value;
             }
-            if (unary) {
-                opened--;
-                values[depth - 1] = operator == '~' ? ~values[depth - 1] : -values[depth - 1];
+        }
+
+        private void join(int operator, int at) {
+            if (depth < 2 || depth > STACK_ROOM) {
                 return;
             }
             depth--;
+            int a = values[depth - 1];
             int b = values[depth];
-            boolean zero = operator == '/' && b == 0;
-            if (zero && knowns[depth]) {
-                note(at, OUT_OF_RANGE);
-            }
-            knowns[depth - 1] = knowns[depth - 1] && knowns[depth] && !zero;
-            values[depth - 1] = result(operator, values[depth - 1], b);
-        }
-
-        private static int result(int operator, int a, int b) {
+            boolean known = knowns[depth - 1] && knowns[depth];
+            int result = 0;
             switch (operator) {
                 case '|':
-                    return a | b;
+                    result = a | b;
+                    break;
                 case '^':
-                    return a ^ b;
+                    result = a ^ b;
+                    break;
                 case '&':
-                    return a & b;
+                    result = a & b;
+                    break;
                 case '<':
-                    return a << (b & 31);
+                    result = a << (b & 31);
+                    break;
                 case '>':
-                    return a >> (b & 31);
+                    result = a >> (b & 31);
+                    break;
                 case '+':
-                    return a + b;
+                    result = a + b;
+                    break;
                 case '-':
-                    return a - b;
+                    result = a - b;
+                    break;
                 case '*':
-                    return a * b;
+                    result = a * b;
+                    break;
                 default:
-                    return b == 0 ? 0 : a / b;
+                    known = known && b != 0;
+                    result = b == 0 ? 0 : a / b;
+                    // It is done right behind its divisor, and a name that is not known there makes it no 0:
+                    // so the first trouble that is met is the first by place.
+                    if (b == 0 && knowns[depth] && trouble == 0) {
+                        trouble = OUT_OF_RANGE;
+                        troubleToken = at;
+                    }
+                    break;
             }
+            values[depth - 1] = result;
+            knowns[depth - 1] = known;
         }
     }
 
@@ -1905,7 +1916,10 @@ public final class OpcodeForge {
                     tokens.blamePlace(from, LINE_TOO_MANY);
                 } else if (conditions.done()) {
                     tokens.cut(from, end);
-                    readLine();
+                    int t = tellLabel();
+                    if (t >= 0) {
+                        readStatement(t);
+                    }
                 } else {
                     passOver(from);
                 }
@@ -1928,15 +1942,19 @@ public final class OpcodeForge {
             conditions.pass(word, false);
         }
 
-        private void readLine() {
-            int t = 0;
-            if (tokens.kind(0) == Tokens.NAME && tokens.kind(1) == ':') {
-                if (!canTell(0)) {
-                    return;
-                }
-                tell(0, address);
-                t = 2;
+        /** Tells the line's LABEL, if it has one. Answers the token where the statement begins, -1 behind a FAULT. */
+        private int tellLabel() {
+            if (tokens.kind(0) != Tokens.NAME || tokens.kind(1) != ':') {
+                return 0;
             }
+            if (!canTell(0)) {
+                return NONE;
+            }
+            tell(0, address);
+            return 2;
+        }
+
+        private void readStatement(int t) {
             if (tokens.kind(t) == Tokens.END) {
                 return;
             }
@@ -1947,14 +1965,12 @@ public final class OpcodeForge {
             int word = names.idOf(tokens.value(t));
             if (tokens.kind(t + 1) == Tokens.NAME && names.idOf(tokens.value(t + 1)) == W_EQU) {
                 equate(t);
-            } else if (word >= W_FIRST && word < W_ORG) {
-                instruction(t, word);
-            } else {
-                directive(t, word);
+                return;
             }
-        }
-
-        private void directive(int t, int word) {
+            if (word >= W_FIRST && word < W_ORG) {
+                instruction(t, word);
+                return;
+            }
             switch (word) {
                 case W_ORG:
                     origin(t);
@@ -2032,7 +2048,7 @@ public final class OpcodeForge {
             int here = address;
             int at = t;
             boolean more = true;
-            while (more && at < tokens.count()) {
+            for (int items = 0; more && items < SOURCE_ROOM; items++) {
                 int item = at + 1;
                 if (octets && tokens.kind(item) == Tokens.TEXT) {
                     at = item + 1;
@@ -2102,20 +2118,21 @@ public final class OpcodeForge {
                 tokens.blame(t, NO_SUCH_WORD);
                 return;
             }
+            int size = shapes.size(code);
             if (which == CHECK) {
-                checkOperands(code);
+                checkOperands(code, size);
             } else if (which == PUT) {
-                putInstruction(code);
+                putInstruction(code, size);
             }
-            goOn(t, shapes.size(code));
+            goOn(t, size);
         }
 
-        private void checkOperands(int code) {
+        private void checkOperands(int code, int size) {
             for (int i = 0; i < operands.count(); i++) {
                 int kind = shapes.kind(code, i);
                 int value = operands.value(i);
                 if (kind == K_TARGET) {
-                    value = distance(code, value);
+                    value = distance(value, size);
                 }
                 if (operands.known(i) && !fits(kind, value)) {
                     tokens.blamePlace(operands.place(i), OUT_OF_RANGE);
@@ -2123,8 +2140,8 @@ public final class OpcodeForge {
             }
         }
 
-        private int distance(int code, int target) {
-            return (short) (target - address - shapes.size(code));
+        private int distance(int target, int size) {
+            return (short) (target - address - size);
         }
 
         private static boolean fits(int kind, int value) {
@@ -2150,7 +2167,7 @@ public final class OpcodeForge {
             }
         }
 
-        private void putInstruction(int code) {
+        private void putInstruction(int code, int size) {
             int group = code >> 8;
             int at = address;
             if (group != G_PLAIN) {
@@ -2169,7 +2186,7 @@ public final class OpcodeForge {
                 int kind = shapes.kind(code, i);
                 int length = isBits ? 0 : Shapes.lengthOf(kind);
                 int value = operands.value(i);
-                putNumber(at, length, kind == K_TARGET ? distance(code, value) : value);
+                putNumber(at, length, kind == K_TARGET ? distance(value, size) : value);
                 at += length;
             }
         }
