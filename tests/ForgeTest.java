@@ -10,6 +10,7 @@ public final class ForgeTest {
         told();
         memoryStays();
         deepExpressions();
+        againBehindFaults();
         Check.end("ForgeTest");
     }
 
@@ -97,6 +98,8 @@ public final class ForgeTest {
             "221 54 127 1 221 54 128 2 221 54 255 3 221 54 5 4 221 54 253 5");
         Check.forges("LD (IX),1\nINC (IY)\nRLC (IX)\nJP (IX)\nJP (IY)\nJP (HL)", 0,
             "221 54 0 1 253 52 0 221 203 0 6 221 233 253 233 233");
+        Check.forges("LD (IX+5),7\nLD (IX),8\nSET 3,(IY-5)\nRES 2,(IY)\nRL (IX+9)\nRL (IX)", 0,
+            "221 54 5 7 221 54 0 8 253 203 251 222 253 203 0 150 221 203 9 22 221 203 0 22");
         Check.forges("BIT 0,A\nBIT 7,(HL)\nRES 3,(IX+1)\nSET 7,(IY-1)", 0, "203 71 203 126 221 203 1 158 253 203 255 254");
         Check.forges("RST 0\nRST 8\nRST 56\nIM 0\nIM 1\nIM 2", 0, "199 207 255 237 70 237 86 237 94");
         Check.forges("OUT (-128),A\nIN A,(255)\nOUT ((3)),A", 0, "211 128 219 255 211 3");
@@ -272,6 +275,25 @@ public final class ForgeTest {
         value("1" + "+1".repeat(2000), 2001);
         Check.forges("LD A,(" + "(".repeat(40) + "7" + ")".repeat(40) + ")", 0, "58 7 0");
         Check.forges("LD (IX+" + "(".repeat(40) + "7" + ")".repeat(40) + "),1", 0, "221 54 7 1");
+    }
+
+    /** A forge() behind one with a FAULT is as on a new object. */
+    private static void againBehindFaults() {
+        String[] broken = {"DB " + "(".repeat(40), "DB " + "-".repeat(40), "DB 1|2^3&4<<5+6*", "IF 1\nIF 0\nELSE", "IF 0",
+            "X: Y: NOP", "LD (IX-5),(IX-", "ORG 9\nDB 1,?", "X EQU 1/0", "\n".repeat(301), "DB -?", "DB 3*(-(", "DB ~?",
+            "DB 1,-?"};
+        String good = "Y EQU 5\nIF Y-5\nENDIF\nDB " + "(".repeat(40) + "7" + ")".repeat(40) + "," + "-".repeat(40) + "7\nX: LD (IX+1),X";
+        for (String text : broken) {
+            OpcodeForge forge = Check.fed(text);
+            Check.same("a FAULT in " + text, forge.forge() < 0 ? 1 : 0, 1);
+            forge.feed(0, 0);
+            Check.feedMore(forge, good);
+            Check.same("forge behind " + text, forge.forge(), 6);
+            Check.same("octets behind " + text, Check.octetsAt(forge, 0, 7), "7 7 221 54 1 2 0");
+            Check.same("told(0) behind " + text, forge.told(0) + forge.told(1), 0);
+            Check.same("told(2) behind " + text, forge.told(2) * 100 + forge.told(3) * 10 + forge.told(4), 520);
+            Check.same("LABELS behind " + text, forge.label(0) * 100 + forge.labelSign(0, 0), 589);
+        }
     }
 
     private static int deepValue(int rows) {

@@ -18,6 +18,7 @@ public final class FuzzTest {
     private static final String[] NAMES = {"X", "Y", "W", "Q", "LONG_NAME_12", "x", "Z", "HL"};
 
     private final Random random = new Random(7);
+    private String latestBroken = "DB ((((-~1";
 
     public static void main(String[] args) {
         new FuzzTest().all();
@@ -164,11 +165,17 @@ public final class FuzzTest {
 
     private int compare(String text) {
         Reference due = new Reference(text);
-        OpcodeForge forge = Check.fed(text);
+        OpcodeForge forge = Check.fed(latestBroken);
+        if (random.nextBoolean()) {
+            forge.forge();
+        }
+        forge.feed(0, 0);
+        Check.feedMore(forge, text);
         Check.same("forge [" + text + "]", forge.forge(), due.code > 0 ? -10 - due.code : due.puts);
         Check.same("line [" + text + "]", forge.told(0), due.line);
         Check.same("place [" + text + "]", forge.told(1), due.place);
         if (due.code > 0) {
+            latestBroken = text;
             Check.same("nothing told [" + text + "]", forge.told(2) + forge.told(3) + forge.told(4) + forge.told(5), 0);
             Check.same("no LABEL [" + text + "]", forge.labelSign(0, 0), -1);
             return due.code;
