@@ -394,6 +394,14 @@ public final class FaultTest {
         Check.faults("DB 1-" + open + "1-`-1", 2);
         Check.faults("LD A,((" + open.substring(1) + "`(1" + ")".repeat(42), 2);
         Check.faults("LD (IX+" + open + "`(1" + ")".repeat(42), 2);
+        Check.faults("`" + "(".repeat(6000), 2);
+        Check.faults("DB-1" + "+1".repeat(2997) + "+`", 2);
+        Check.faults("X:`Y" + ":".repeat(5997), 6);
+        Check.faults("LD A,(" + "1".repeat(5994), 1, 1, 6);
+        Check.faults("`" + "X".repeat(6000), 1);
+        Check.faults("DB `" + "9".repeat(5997), 1);
+        Check.faults("DB `\"" + "9".repeat(5996), 1);
+        Check.faults("LD " + "(".repeat(40) + "`" + "(".repeat(5957), 2);
         Check.faults("DB 1," + open + "1" + ")".repeat(40) + "+" + open + "`~2", 2);
     }
 }

@@ -273,6 +273,9 @@ public final class ForgeTest {
         value(row.repeat(40) + "1" + ")".repeat(40), deepValue(40));
         value("-1".repeat(200), -200);
         value("1" + "+1".repeat(2000), 2001);
+        Check.forges("DW-1" + "+1".repeat(2998), 0, "181 11");
+        Check.forges("DB\"" + "x".repeat(5996) + "\"", 0, "120 ".repeat(5996));
+        Check.forges("DB 0" + ",0".repeat(2998), 0, "0 ".repeat(2999));
         Check.forges("LD A,(" + "(".repeat(40) + "7" + ")".repeat(40) + ")", 0, "58 7 0");
         Check.forges("LD (IX+" + "(".repeat(40) + "7" + ")".repeat(40) + "),1", 0, "221 54 7 1");
     }
@@ -281,8 +284,9 @@ public final class ForgeTest {
     private static void againBehindFaults() {
         String[] broken = {"DB " + "(".repeat(40), "DB " + "-".repeat(40), "DB 1|2^3&4<<5+6*", "IF 1\nIF 0\nELSE", "IF 0",
             "X: Y: NOP", "LD (IX-5),(IX-", "ORG 9\nDB 1,?", "X EQU 1/0", "\n".repeat(301), "DB -?", "DB 3*(-(", "DB ~?",
-            "DB 1,-?"};
-        String good = "Y EQU 5\nIF Y-5\nENDIF\nDB " + "(".repeat(40) + "7" + ")".repeat(40) + "," + "-".repeat(40) + "7\nX: LD (IX+1),X";
+            "DB 1,-?", "DB " + "1|2^3&1<<2+1*(".repeat(40) + "?"};
+        String good = "Y EQU 5\nIF Y-5\nENDIF\nDB " + "(".repeat(40) + "7" + ")".repeat(40) + "," + "-".repeat(40) + "7\nX: LD (IX+1),X\n"
+            + "V EQU " + "1|2^3&1<<2+1*(".repeat(40) + "1" + ")".repeat(40);
         for (String text : broken) {
             OpcodeForge forge = Check.fed(text);
             Check.same("a FAULT in " + text, forge.forge() < 0 ? 1 : 0, 1);
@@ -291,7 +295,8 @@ public final class ForgeTest {
             Check.same("forge behind " + text, forge.forge(), 6);
             Check.same("octets behind " + text, Check.octetsAt(forge, 0, 7), "7 7 221 54 1 2 0");
             Check.same("told(0) behind " + text, forge.told(0) + forge.told(1), 0);
-            Check.same("told(2) behind " + text, forge.told(2) * 100 + forge.told(3) * 10 + forge.told(4), 520);
+            Check.same("told(2) behind " + text, forge.told(2) * 100 + forge.told(3) * 10 + forge.told(4), 630);
+            Check.same("V behind " + text, forge.label(2), deepValue(40));
             Check.same("LABELS behind " + text, forge.label(0) * 100 + forge.labelSign(0, 0), 589);
         }
     }

@@ -14,6 +14,9 @@ public final class StepTest {
             }
         }
         allAdjusts();
+        allCalculations();
+        allCounts();
+        allConditions();
         programs(random);
         Check.end("StepTest");
     }
@@ -101,6 +104,100 @@ public final class StepTest {
                 forge.set(11, 0);
                 Check.same("DAA", forge.step(), model.step());
                 Check.same("DAA " + a + " " + f, forge.register(0), model.register[0]);
+            }
+        }
+    }
+
+    /** Every A with many an operand, without and with C. */
+    private static void allCalculations() {
+        int[] others = {0, 1, 7, 8, 15, 16, 127, 128, 129, 170, 200, 254, 255};
+        for (int y = 0; y < 8; y++) {
+            for (int v : others) {
+                for (int c = 0; c < 2; c++) {
+                    afterOnes(new int[] {198 + 8 * y, v}, c);
+                }
+            }
+            afterOnes(new int[] {203, 7 + 8 * y}, 0);
+            afterOnes(new int[] {203, 7 + 8 * y}, 255);
+            afterOnes(new int[] {7 + 8 * y}, 0);
+            afterOnes(new int[] {7 + 8 * y}, 255);
+            afterOnes(new int[] {203, 71 + 8 * y}, 255);
+        }
+        for (int f : new int[] {0, 255}) {
+            afterOnes(new int[] {60}, f);
+            afterOnes(new int[] {61}, f);
+            afterOnes(new int[] {237, 68}, f);
+            afterOnes(new int[] {237, 87}, f);
+            afterOnes(new int[] {237, 95}, f);
+            afterOnes(new int[] {237, 103}, f);
+            afterOnes(new int[] {237, 111}, f);
+        }
+    }
+
+    /** One instruction, done with each octet in A, in I and in R. */
+    private static void afterOnes(int[] octets, int f) {
+        OpcodeForge forge = new OpcodeForge();
+        for (int a = 0; a < 256; a++) {
+            if (a % 64 == 0) {
+                forge = new OpcodeForge();
+                Check.putAll(forge, 0, octets);
+            }
+            Model model = new Model();
+            for (int i = 0; i < octets.length; i++) {
+                model.memory[i] = octets[i];
+            }
+            int[] state = {0, a * 256 + f, 3, 0, 11, 0, 12, a, 13, a};
+            for (int i = 0; i < state.length; i += 2) {
+                model.register[state[i]] = state[i + 1];
+                forge.set(state[i], state[i + 1]);
+            }
+            forge.put(0, octets[0]);
+            forge.step();
+            model.step();
+            Check.same("AF of " + octets[0] + ", A " + a + ", F " + f, forge.register(0), model.register[0]);
+        }
+    }
+
+    /** DJNZ and the blocks with every B, or every low half of BC. */
+    private static void allCounts() {
+        for (int octet : new int[] {16, 162, 163, 170, 171, 178, 179, 186, 187, 160, 161, 168, 169, 176, 177, 184, 185}) {
+            for (int b = 0; b < 256; b++) {
+                OpcodeForge forge = new OpcodeForge();
+                Model model = new Model();
+                int[] octets = octet == 16 ? new int[] {16, 50} : new int[] {237, octet};
+                boolean lower = octet >= 160 && octet % 4 < 2;
+                int[] state = {0, b * 256, 1, lower ? b : b * 256 + 9, 2, 900, 3, 400 + b, 11, 100};
+                for (int i = 0; i < state.length; i += 2) {
+                    model.register[state[i]] = state[i + 1];
+                    forge.set(state[i], state[i + 1]);
+                }
+                put(forge, model, 100, octets[0]);
+                put(forge, model, 101, octets[1]);
+                put(forge, model, 400 + b, b ^ 85);
+                model.in[9] = b ^ 85;
+                forge.port(9, b ^ 85);
+                Check.same("answer of " + octet, forge.step(), model.step());
+                compare("count " + octet + " B " + b, forge, model);
+            }
+        }
+    }
+
+    /** Each condition of JR, JP, CALL, RET with every F. */
+    private static void allConditions() {
+        for (int octet = 0; octet < 256; octet++) {
+            if (octet >= 192 && octet % 2 == 0 && octet % 8 < 6 || octet < 64 && octet % 8 == 0 && octet > 24) {
+                for (int f = 0; f < 256; f++) {
+                    OpcodeForge forge = new OpcodeForge();
+                    Model model = new Model();
+                    model.register[0] = f;
+                    forge.set(0, f);
+                    put(forge, model, 0, octet);
+                    put(forge, model, 1, 77);
+                    put(forge, model, 2, 44);
+                    Check.same("answer of " + octet, forge.step(), model.step());
+                    Check.same("PC, " + octet + " F " + f, forge.register(11), model.register[11]);
+                    Check.same("SP, " + octet + " F " + f, forge.register(10), model.register[10]);
+                }
             }
         }
     }

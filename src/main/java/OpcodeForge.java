@@ -956,8 +956,10 @@ public final class OpcodeForge {
                     goesOn = open(kind, at);
                 } else if (wantsValue) {
                     goesOn = takeValue(kind, at);
-                    wantsValue = !goesOn;
-                    settle(TERM_LEVEL);
+                    if (goesOn) {
+                        settle(TERM_LEVEL);
+                        wantsValue = false;
+                    }
                 } else if (kind == ')' && parentheses > 0) {
                     settle(1);
                     close();
