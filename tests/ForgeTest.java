@@ -262,6 +262,11 @@ public final class ForgeTest {
         Check.same("MEMORY has what was put, and the rest", Check.octetsAt(forge, 2, 4), "0 1 9 0");
         Check.same("LABELS are gone", forge.labelSign(0, 0), -1);
         Check.same("the same again", forge.forge(), 1);
+        forge.feed(0, 0);
+        Check.feedMore(forge, "ORG 7");
+        Check.same("nothing is put", forge.forge(), 0);
+        Check.same("told(4) of nothing", forge.told(4), 0);
+        Check.same("told(5) of nothing", forge.told(5), 7);
     }
 
     private static void deepExpressions() {

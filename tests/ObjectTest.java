@@ -153,7 +153,9 @@ public final class ObjectTest {
         forge.request(0, 9);
         forge.request(1, 9);
         Check.same("outs before clear", forge.outs(), 1);
+        Check.same("out before clear", forge.out(9), 0x42);
         forge.clear();
+        Check.same("out behind clear", forge.out(9), 0);
         isFirst("clear", forge);
         Check.same("port as at first", forge.port(5, 0), 0);
         Check.same("SOURCE stays", Check.sourceOf(forge), "ORG 9\nX: DB 1,2\nY EQU 5");
