@@ -89,6 +89,12 @@ public final class WriteTest {
         Check.same("what was written stays", Check.written(forge), "LD A,7");
         Check.same("more comes behind it", Check.feedMore(forge, "NOP"), due.length() + 3);
         long300(forge);
+        for (int number : new int[] {0, 1, 9, 10, 99, 100, 101, 999, 1000, 9999, 10000, 19999, 20000, 30000, 59999, 60000, 65535}) {
+            OpcodeForge other = new OpcodeForge();
+            Check.putAll(other, number, 195, number & 255, number >> 8);
+            other.source(number, 1);
+            Check.same("source at " + number, Check.sourceOf(other), "ORG " + number + "\nJP " + number + "\n");
+        }
     }
 
     private static void long300(OpcodeForge forge) {
