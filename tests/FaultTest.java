@@ -396,6 +396,7 @@ public final class FaultTest {
         Check.faults("LD (IX+" + open + "`(1" + ")".repeat(42), 2);
         Check.faults("`" + "(".repeat(6000), 2);
         Check.faults("DB-1" + "+1".repeat(2997) + "+`", 2);
+        Check.faults("DB-1" + "+1".repeat(2997) + "+-`", 2);
         Check.faults("X:`Y" + ":".repeat(5997), 6);
         Check.faults("LD A,(" + "1".repeat(5994), 1, 1, 6);
         Check.faults("`" + "X".repeat(6000), 1);

@@ -189,7 +189,12 @@ public final class ForgeTest {
         Check.same("the 201st", forge.forge(), -13);
         Check.same("its place", forge.told(1), text.length());
         Check.same("told(3) stays", forge.told(3), 200);
-        Check.feedMore(forge, ";");
+        forge.feed(0, 0);
+        Check.feedMore(forge, "ORG 5\nX:");
+        Check.same("one LABEL", forge.forge(), 0);
+        Check.same("told(3) of one", forge.told(3), 1);
+        Check.same("LABELS of one", forge.label(0) * 100 + forge.label(1) * 10 + forge.label(2), 500);
+        Check.same("no name behind it", forge.labelSign(1, 0), -1);
         forge.feed(0, 0);
         Check.same("no LABEL", forge.forge(), 0);
         Check.same("told(3) of none", forge.told(3), 0);
