@@ -5,18 +5,21 @@ import java.util.List;
 final class Check {
     private static int passed = 0;
     private static int failed = 0;
+    private static String sentence = "";
 
     private Check() {
+    }
+
+    /** The sentence of the document that the checks from here on hold: its promise, or its place in "Terms". */
+    static void holds(String place, String words) {
+        sentence = place + ", \"" + words + "\": ";
     }
 
     static void same(String what, long got, long due) {
         if (got == due) {
             passed++;
         } else {
-            failed++;
-            if (failed <= 40) {
-                System.out.println(what + ": answered " + got + ", due is " + due);
-            }
+            tellOf(what + ": answered " + got + ", due is " + due);
         }
     }
 
@@ -24,10 +27,14 @@ final class Check {
         if (got.equals(due)) {
             passed++;
         } else {
-            failed++;
-            if (failed <= 40) {
-                System.out.println(what + ": answered [" + got + "], due is [" + due + "]");
-            }
+            tellOf(what + ": answered [" + got + "], due is [" + due + "]");
+        }
+    }
+
+    private static void tellOf(String failure) {
+        failed++;
+        if (failed <= 40) {
+            System.out.println(sentence + failure);
         }
     }
 
