@@ -266,6 +266,19 @@ public final class CallEdgesTest {
         Check.holds("Promise 4", "Of the latest forge(), with a FAULT, too: its line, its place");
         Check.same("line", forge.told(0), 4);
         Check.same("place", forge.told(1), 23);
+        forge.feed(0, 0);
+        Check.feedMore(forge, "X:ORG 7");
+        Check.same("forge()", forge.forge(), 0);
+        int[] then = {0, 0, 1, 1, 0, 7};
+        for (int what = 0; what <= 5; what++) {
+            Check.same("without a FAULT again, told(" + what + ")", forge.told(what), then[what]);
+        }
+        forge.feed(0, 0);
+        Check.feedMore(forge, "IF 1\nIF 0");
+        Check.same("forge()", forge.forge(), -17);
+        forge.feed(0, 0);
+        Check.feedMore(forge, "DB 1\nIF 1\nENDIF");
+        Check.same("IFs that were open are so no more", forge.forge(), 1);
         Check.holds("Promise 4", "4 the address of the first octet put (0 if none was)");
         tells("X:\nORG 7", 4, 0);
         tells("ORG 7\nDS 0\nDB \"\"", 4, 0);

@@ -122,6 +122,20 @@ public final class FaultEdgesTest {
         bad("`FOO\nORG X", 6);
         bad("DB X\nORG `Y\nX:", 4);
         bad("IF 0\nX:\nENDIF\nDB `X", 4);
+        Check.holds(TERMS, "4: an exp whose VALUE is not known is in no range and out of none");
+        bad("DB 300+`X", 4);
+        bad("DB 0-300*`X", 4);
+        bad("LD A,300+`X", 4);
+        bad("LD (IX+300+`X),300", 4);
+        bad("ORG -1+`X", 4);
+        bad("DS -1+`X", 4);
+        bad("DB 1/`X", 4);
+        bad("DB 300/`X", 4);
+        bad("DB 1/(0*`X)", 4);
+        bad("DB 300+1`/0", 5);
+        bad("LD A,300+1`/0", 5);
+        bad("ORG -1+1`/0", 5);
+        bad("DB 1/(2`/0)", 5);
     }
 
     private static void outOfRange() {

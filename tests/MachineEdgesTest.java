@@ -20,6 +20,7 @@ public final class MachineEdgesTest {
     private static final int START = 16384;
 
     public static void main(String[] args) {
+        loads();
         additions();
         subtractions();
         logic();
@@ -82,6 +83,51 @@ public final class MachineEdgesTest {
         is(octets + " with AF " + Integer.toHexString(af), did(octets, AF, af), AF, due, BC, 0, DE, 0, HL, 0, SP, 65535);
     }
 
+    private static final int[] PAIR = {BC, BC, DE, DE, HL, HL, -1, AF};
+
+    /** The octet that R[y] is, where all registers are set as in loads(). */
+    private static int octetOf(OpcodeForge forge, int y) {
+        if (y == 6) {
+            return forge.octet(0x5556);
+        }
+        int pair = forge.register(PAIR[y]);
+        return y == 7 || y % 2 == 0 ? pair >> 8 : pair & 255;
+    }
+
+    private static void loads() {
+        Check.holds("Terms 1 and 3", "TABLES: R: B C D E H L (HL) A; LD R[y],R[z], LD R[y],n");
+        int[] values = {0x11, 0x22, 0x33, 0x44, 0x55, 0x56, 0x77, 0x88};
+        for (int y = 0; y < 8; y++) {
+            for (int z = 0; z <= 8; z++) {
+                if (y == 6 && z == 6) {
+                    continue;
+                }
+                String octets = z == 8 ? (6 + 8 * y) + " 153" : "" + (64 + 8 * y + z);
+                OpcodeForge forge = ready(octets, BC, 0x1122, DE, 0x3344, HL, 0x5556, AF, 0x8899);
+                forge.put(0x5556, 0x77);
+                Check.same("step of " + octets, forge.step(), 1);
+                for (int r = 0; r < 8; r++) {
+                    int due = r == y ? (z == 8 ? 153 : values[z]) : values[r];
+                    Check.same("R[" + r + "] behind " + octets, octetOf(forge, r), due);
+                }
+                Check.same("F behind " + octets, forge.register(AF) & 255, 0x99);
+            }
+        }
+        Check.holds("Terms 1 and 3", "RP: BC DE HL SP. RQ: BC DE HL AF");
+        int[] pairs = {BC, DE, HL, SP};
+        int[] pushes = {BC, DE, HL, AF};
+        for (int p = 0; p < 4; p++) {
+            is("LD RP[" + p + "],m", did((1 + 16 * p) + " 52 18"), pairs[p], 0x1234);
+            OpcodeForge forge = did("" + (197 + 16 * p), pushes[p], 0x1234, SP, 20002);
+            pushed("PUSH RQ[" + p + "]", forge, 20000, 0x1234);
+            forge.set(PC, START);
+            forge.put(START, 193 + 16 * p);
+            forge.set(pushes[p], 0);
+            forge.step();
+            is("POP RQ[" + p + "]", forge, pushes[p], 0x1234, SP, 20002);
+        }
+    }
+
     private static void additions() {
         Check.holds(TERMS, "ADD, ADC of octets: S Z Y X of what comes, H a carry out of bit 3, P an overflow with sign, N 0, C a carry out");
         af("198 1", 0x0E00, 0x0F08);
@@ -95,6 +141,7 @@ public final class MachineEdgesTest {
         af("198 255", 0x8000, 0x7F2D);
         af("198 255", 0x8100, 0x8091);
         af("198 0", 0x00FF, 0x0040);
+        af("198 1", 0x0000, 0x0100);
         af("206 0", 0x7F00, 0x7F28);
         af("206 0", 0x7F01, 0x8094);
         af("206 0", 0xFF01, 0x0051);
@@ -116,6 +163,9 @@ public final class MachineEdgesTest {
         af("214 255", 0x7E00, 0x7F3B);
         af("214 128", 0x0000, 0x8087);
         af("214 127", 0xFF00, 0x8082);
+        af("214 1", 0x0200, 0x0102);
+        af("214 128", 0x8000, 0x0042);
+        af("214 129", 0x8000, 0xFFBB);
         af("222 0", 0x0100, 0x0102);
         af("222 0", 0x0101, 0x0042);
         af("222 0", 0x0001, 0xFFBB);
@@ -198,6 +248,7 @@ public final class MachineEdgesTest {
         wide("237 74", 0x0001, 0xFFFF, 0, 0x0000, 0x0051);
         wide("237 74", 0x0001, 0x00FF, 0, 0x0100, 0x0000);
         wide("237 74", 0x0000, 0x0000, 0, 0x0000, 0x0040);
+        wide("237 74", 0x0001, 0x0000, 0, 0x0001, 0x0000);
         wide("237 74", 0x0000, 0x8000, 0x8000, 0x0000, 0x0045);
         wide("237 74", 0x0000, 0x8000, 0xFFFF, 0x7FFF, 0x002D);
         wide("237 74", 0x0001, 0x8000, 0xFFFF, 0x8000, 0x0091);
@@ -206,6 +257,8 @@ public final class MachineEdgesTest {
         wide("237 66", 0x0000, 0x8001, 1, 0x8000, 0x0082);
         wide("237 66", 0x0001, 0x8001, 1, 0x7FFF, 0x003E);
         wide("237 66", 0x0000, 0x0001, 1, 0x0000, 0x0042);
+        wide("237 66", 0x0000, 0x0002, 1, 0x0001, 0x0002);
+        wide("237 66", 0x0000, 0x8000, 0x8000, 0x0000, 0x0042);
         wide("237 66", 0x0001, 0x0001, 1, 0xFFFF, 0x00BB);
         wide("237 66", 0x0000, 0x0101, 1, 0x0100, 0x0002);
         wide("237 66", 0x0000, 0x1000, 1, 0x0FFF, 0x001A);
@@ -374,7 +427,8 @@ public final class MachineEdgesTest {
         int[][] due = {
             // A, octet, BC, F before, F then
             {5, 5, 1, 1, 0x43}, {5, 5, 2, 0, 0x46}, {5, 5, 0, 0, 0x46}, {0, 1, 1, 0, 0xBA}, {16, 1, 1, 0, 0x3A}, {128, 1, 2, 1, 0x3F},
-            {2, 0, 1, 0, 0x22}, {8, 0, 1, 0, 0x0A}, {1, 0, 1, 255, 0x03}, {16, 15, 1, 0, 0x12}, {24, 9, 1, 0, 0x3A}};
+            {2, 0, 1, 0, 0x22}, {8, 0, 1, 0, 0x0A}, {1, 0, 1, 255, 0x03}, {16, 15, 1, 0, 0x12}, {16, 8, 1, 0, 0x32}, {16, 14, 1, 0, 0x12},
+            {16, 13, 1, 0, 0x32}, {16, 7, 1, 0, 0x1A}, {24, 9, 1, 0, 0x3A}};
         for (int octet : new int[] {161, 169}) {
             int on = octet == 161 ? 1 : -1;
             for (int[] row : due) {

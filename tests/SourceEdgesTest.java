@@ -165,6 +165,9 @@ public final class SourceEdgesTest {
         bad("DW `$", 1);
         bad("DW `$G", 1);
         bad("DW $F`G", 2);
+        bad("DW $1`_", 2);
+        bad("DW `$_", 1);
+        bad("DW 1`_", 2);
         bad("DW `$$1", 1);
         bad("DW `%", 1);
         bad("DW `%2", 1);
@@ -254,6 +257,12 @@ public final class SourceEdgesTest {
         bad("DB XAF`'", 1);
         bad("DB AF2`'", 1);
         bad("DB _AF`'", 1);
+        for (String name : new String[] {"F", "XY", "FA", "AG", "A_", "A1", "AFA", "AFAF", "_AF", "XAF"}) {
+            bad("DB " + name + "`'", 1);
+            bad("DB V+" + name + "`'\n" + name + " EQU 5", 1);
+        }
+        bad("EX AF,`BC'", 2);
+        bad("EX `HL',AF", 2);
         bad("EX AF,`AF''", 2);
     }
 
@@ -479,6 +488,15 @@ public final class SourceEdgesTest {
         bad("LD A,(5)`)", 2);
         bad("LD A,((5)`", 2);
         bad("LD A,(`HL)?", 2);
+        Check.holds(TERMS, "in a place an exp ends at the )");
+        for (String place : new String[] {"5", "IX+5", "IY-5"}) {
+            bad("LD A,(" + place + " `6)", 2);
+            bad("LD A,(" + place + " `X)", 2);
+            bad("LD A,(" + place + "`,6)", 2);
+            bad("LD A,(" + place + "`:)", 2);
+            bad("LD A,(" + place + " `(6))", 2);
+            bad("LD A,(" + place + " `~6)", 2);
+        }
     }
 
     private static void alone() {
