@@ -474,6 +474,8 @@ public final class FaultEdgesTest {
         bad("ORG 65535\nDS `X", 4);
         bad("ORG 65535\nDS `-1", 5);
         bad("ORG 65535\nDS 5`/0", 5);
+        bad("ORG 2\nDS `65535+1", 5);
+        bad("DS `65535+2", 5);
     }
 
     private static void secondPass() {

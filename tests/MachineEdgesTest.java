@@ -710,6 +710,12 @@ public final class MachineEdgesTest {
                     forge.request(kind, 0);
                     Check.same("taken", forge.step(), 2);
                     pushed("kind " + kind + " at " + octet, forge, 20000, octet == 118 ? 0 : 65535);
+                    for (int pc : new int[] {0, START, START + 1}) {
+                        forge = ready("" + octet, PC, pc, L1, 1, SP, 20002);
+                        forge.request(kind, 0);
+                        Check.same("taken", forge.step(), 2);
+                        pushed("kind " + kind + " at " + octet + ", PC " + pc, forge, 20000, octet == 118 ? pc + 1 : pc);
+                    }
                 }
             }
         }

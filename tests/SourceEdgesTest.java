@@ -177,6 +177,22 @@ public final class SourceEdgesTest {
         bad("DW 0`X10", 2);
         bad("DW 1`$1", 2);
         bad("DW 1`%1", 2);
+        allNumbers();
+    }
+
+    /** Each NUMBER right behind a word, as a number that stands for a NAME inside the program could be taken for one. */
+    private static void allNumbers() {
+        for (int from = 0; from < 65536; from += 64) {
+            StringBuilder text = new StringBuilder();
+            for (int n = from; n < from + 64; n++) {
+                text.append("DW ").append(n).append('\n');
+            }
+            OpcodeForge forge = Check.fed(text.toString());
+            Check.same("forge of 64 numbers from " + from, forge.forge(), 128);
+            for (int i = 0; i < 64; i++) {
+                Check.same("DW " + (from + i), forge.octet(2 * i) + 256 * forge.octet(2 * i + 1), from + i);
+            }
+        }
     }
 
     private static void quoted() {
